@@ -70,7 +70,8 @@ public final class FairHandful {
         return handAt(hand).shuffle();
     }
 
-    public int join(int hand, int other) throws IndexOutOfBoundsException, IllegalArgumentException, IllegalStateException {
+    public int join(int hand, int other)
+            throws IndexOutOfBoundsException, IllegalArgumentException, IllegalStateException {
         Hand first = handAt(hand);
         Hand second = handAt(other);
         if (first == second) {
@@ -225,7 +226,7 @@ public final class FairHandful {
 
     public double meanValue(int hand) throws IndexOutOfBoundsException {
         Hand one = handAt(hand);
-        return one.held < 1 ? 0 : (double) one.total() / one.held;
+        return one.held < 1 ? 0.0 : (double) one.total() / one.held;
     }
 
     public long digest() {
@@ -315,13 +316,12 @@ public final class FairHandful {
         int fromFirst = 0;
         int fromSecond = 0;
         trial.become(first);
-        trial.forget();
         for (int place = 0; place < first.room; place++) {
             if (fromFirst >= first.held && fromSecond >= second.held) {
                 break;
             }
             boolean isFirsts = trial.draw(bothSeen - place) < first.seen - fromFirst;
-            if (isFirsts && fromFirst < first.held || fromSecond >= second.held) {
+            if ((isFirsts && fromFirst < first.held) || fromSecond >= second.held) {
                 trial.copyStone(place, first, fromFirst);
                 fromFirst++;
             } else {

@@ -224,6 +224,15 @@ public final class PromiseTest {
         Check.same("6: luck of the other", x.luckOf(1), 77);
         x.offer(1, 5, 1);
         Check.same("6: the other one counts from 1 again", x.cameAs(1, 0), 1);
+
+        FairHandful y = table(2, 0, 2777);
+        y.addHand(2, 0, 0);
+        y.offerRow(0, 10, 1, 2);
+        y.offerRow(1, 20, 3, 2);
+        Check.same("6: 5294 % 4 is as much as 2, 6351 % 3 < 2", y.join(0, 1), 1);
+        checkValues("6: the first one's stone on another place", y, 0, 20, 10);
+        Check.same("6: its weight", y.weightAt(0, 1), 1);
+        Check.same("6: its turn", y.cameAs(0, 1), 1);
     }
 
     private static void joinWithEmptyHands() {
@@ -347,7 +356,10 @@ public final class PromiseTest {
         FairHandful x = table(8, 0, 0);
         Check.same("18: nothing", x.sum(0), 0);
         Check.sameDouble("30: nothing", x.meanValue(0), 0);
-        offerAll(x, 0, 1, 2, 2);
+        offerAll(x, 0, 1);
+        Check.same("18: one", x.sum(0), 1);
+        Check.sameDouble("30: one", x.meanValue(0), 1);
+        offerAll(x, 0, 2, 2);
         Check.same("18: three", x.sum(0), 5);
         Check.sameDouble("30: three", x.meanValue(0), 5.0 / 3.0);
         offerAll(x, 0, 0);
@@ -544,6 +556,10 @@ public final class PromiseTest {
         Check.same("27: nothing is changed", x.luckOf(0), 0);
         Check.same("27: nothing is seen", x.seenBy(0), 2);
         checkValues("27: nothing is taken", x, 0, 1, 2);
+
+        FairHandful y = table(1, 1, 0);
+        y.offer(0, 1, 7);
+        Check.same("27: by weight, 2777 % 8, 5294 % 9, 6351 % 10, 748 % 11", y.untilTaken(0), 4);
     }
 
     /** Of a fair hand with room for one that has seen so many: when the next one gets the place. */
@@ -592,6 +608,22 @@ public final class PromiseTest {
         y.offer(0, 2, 5);
         Check.same("28: by weight", y.weightWanted(0), 3);
         Check.same("28: nothing is changed", y.luckOf(0), 0);
+
+        // 2777 % 33 is below 9, but % 25 to % 32 not below 1 to 8.
+        FairHandful z = table(1, 1, 0);
+        z.offer(0, 1, 9);
+        z.offer(0, 2, 9);
+        z.offer(0, 3, 6);
+        z.setLuck(0, 0);
+        Check.same("28: the weight 9", z.weightWanted(0), 9);
+
+        // 2777 % 24 to % 32 are not below 1 to 9.
+        FairHandful w = table(1, 1, 0);
+        w.offer(0, 1, 9);
+        w.offer(0, 2, 9);
+        w.offer(0, 3, 5);
+        w.setLuck(0, 0);
+        Check.same("28: by weight, none of these", w.weightWanted(0), -1);
         Check.same("28: nothing is loaded", y.loadOf(0), 9);
     }
 
@@ -637,6 +669,13 @@ public final class PromiseTest {
         due = digestOf(due, 1, x.wouldJoin(1, 0), 1, -1);
         Check.same("31: two hands", x.digest(), due);
         Check.same("31: nothing is changed", x.digest(), due);
+
+        FairHandful y = table(2, 1, 0);
+        y.offer(0, 9, 3);
+        y.offer(0, 8, 4);
+        due = digestOf(2371, 1, 2, 2, 2, 7, 0, 17, 1, 9, 1979, 0, y.wouldStay(0, 20), 1, 1);
+        due = digestOf(due, 9, 3, 1, 1, 8, 4, 2, 0, 2, -1);
+        Check.same("31: by weight", y.digest(), due);
     }
 
     private static long digestOf(long before, int... answers) {
