@@ -13,6 +13,8 @@ public final class FairHandful {
     private static final int MOST_BELOW = 100;
     private static final int NONE = -1;
     private static final long DIGEST_START = 2371;
+    private static final int DIGEST_DRAWS = 7;
+    private static final int DIGEST_STONES = 20;
 
     /** Filled from 0 on; null where no hand has been added yet. */
     private final Hand[] table;
@@ -177,7 +179,7 @@ public final class FairHandful {
         if (!isWithin(draws, 0, MOST_DRAWS)) {
             throw new IllegalArgumentException("draws");
         }
-        return luckBehind(one.luck, draws);
+        return luckBehind(one, draws);
     }
 
     public int drawsUntil(int hand, int below, int drawn) throws IndexOutOfBoundsException, IllegalArgumentException {
@@ -259,9 +261,9 @@ public final class FairHandful {
     }
 
     private long digestedForecasts(long before, Hand hand) {
-        long d = digested(before, luckBehind(hand.luck, 7));
+        long d = digested(before, luckBehind(hand, DIGEST_DRAWS));
         d = digested(d, placeForWeight(hand, 1));
-        d = digested(d, stayingAfter(hand, 20));
+        d = digested(d, stayingAfter(hand, DIGEST_STONES));
         d = digested(d, stonesUntilPlaced(hand));
         return digested(d, leastWeightPlaced(hand));
     }
@@ -390,16 +392,12 @@ public final class FairHandful {
         return common;
     }
 
-    private static int luckBehind(int luck, int draws) {
-        int behind = luck;
+    private int luckBehind(Hand hand, int draws) {
+        trial.become(hand);
         for (int draw = 0; draw < draws; draw++) {
-            behind = nextLuck(behind);
+            trial.draw(1);
         }
-        return behind;
-    }
-
-    private static int nextLuck(int luck) {
-        return (luck * 4621 + 2777) % 10000;
+        return trial.luck;
     }
 
     private static boolean isWithin(int number, int least, int most) {
@@ -469,7 +467,7 @@ public final class FairHandful {
         }
 
         private int draw(int below) {
-            luck = nextLuck(luck);
+            luck = (luck * 4621 + 2777) % 10000;
             return below < 1 ? 0 : luck % below;
         }
 
