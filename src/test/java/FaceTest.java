@@ -50,6 +50,7 @@ public final class FaceTest {
                 Modifier.isPublic(made.getModifiers()) && made.getParameterCount() == 0);
         }
         checkMethods();
+        checkPrivateNames();
         for (Field field : FairHandful.class.getDeclaredFields()) {
             Check.that("a field that is not private: " + field, Modifier.isPrivate(field.getModifiers()));
         }
@@ -76,6 +77,23 @@ public final class FaceTest {
         }
         for (String one : seen) {
             Check.that("not due in the face: " + one, due.contains(one));
+        }
+    }
+
+    /** LANGUAGE.md's rule 1: no private method bears the name of a public one; inside classes neither. */
+    private static void checkPrivateNames() {
+        Set<String> face = new TreeSet<>();
+        for (String one : FACE) {
+            face.add(one.substring(one.indexOf(' ') + 1, one.indexOf('(')));
+        }
+        for (Method method : FairHandful.class.getDeclaredMethods()) {
+            Check.that("a private method with a name of the face: " + method,
+                Modifier.isPublic(method.getModifiers()) || !face.contains(method.getName()));
+        }
+        for (Class<?> inside : FairHandful.class.getDeclaredClasses()) {
+            for (Method method : inside.getDeclaredMethods()) {
+                Check.that("a method inside with a name of the face: " + method, !face.contains(method.getName()));
+            }
         }
     }
 
